@@ -14,6 +14,7 @@ public final class Promise01NewObjectTest {
         check.due("seek", desk.seek(), -1);
         hasEmptyCells(check);
         hasNoMarks(check);
+        canBeGoneBackTo(check);
         isApartFromOthers(check);
         check.finish();
     }
@@ -32,6 +33,13 @@ public final class Promise01NewObjectTest {
             check.due("stop(" + a + ", false)", stops.stop(a, false), false);
             check.due("watch(" + a + ", false)", watches.watch(a, false), false);
         }
+    }
+
+    private static void canBeGoneBackTo(Check check) {
+        ReplayDesk desk = new ReplayDesk();
+        desk.run(1);
+        check.due("go(0)", desk.go(0), true);
+        check.dueRegisters("back at the first moment", desk, 0, 0, 0, 255, 0, 0, 0);
     }
 
     private static void isApartFromOthers(Check check) {

@@ -49,6 +49,10 @@ public final class Promise05RunTest {
         check.due("run(1) over an old moment", desk.run(1), 1);
         desk.go(0);
         check.due("run(2) that ends just there", desk.run(2), 2);
+        desk.go(1);
+        check.due("run(9) with the stop behind its first step", desk.run(9), 1);
+        desk.stop(3, true);
+        check.due("run(9) from a stop to the next cell's", desk.run(9), 1);
     }
 
     private static void goesOnThroughOldMoments(Check check) {

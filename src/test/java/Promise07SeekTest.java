@@ -78,5 +78,7 @@ public final class Promise07SeekTest {
         check.due("seek", desk.seek(), -1);
         desk.stop(0, true);
         check.due("seek", desk.seek(), 0);
+        desk.go(3);
+        check.due("seek to the moment just before", desk.seek(), 2);
     }
 }

@@ -5,6 +5,7 @@ public final class Promise15And16OutputTest {
         staysWhenTheHistoryBeginsAnew(check);
         forgetsWhatLaterMomentsPutOut(check);
         putsOutAtEveryStep(check);
+        putsOutAFullHistoryBehindAnyNumber(check);
         check.finish();
     }
 
@@ -67,11 +68,30 @@ public final class Promise15And16OutputTest {
         due(check, "a round later", desk, 13);
     }
 
-    private static void putsOutAtEveryStep(Check check) {
+    private static ReplayDesk putter() {
         ReplayDesk desk = new ReplayDesk();
         for (int a = 0; a < 300; a++) {
             desk.poke(a, Check.PUT_OUT);
         }
+        return desk;
+    }
+
+    private static void putsOutAFullHistoryBehindAnyNumber(Check check) {
+        for (int first = 0; first <= 20; first++) {
+            ReplayDesk desk = putter();
+            desk.run(first);
+            desk.set(Check.PC, 0);
+            desk.set(Check.A, 77);
+            desk.run(300);
+            check.due("puts behind " + first, desk.puts(), first + 300);
+            check.due("output(0) behind " + first, desk.output(0), 77);
+            desk.go(0);
+            check.due("puts before them, behind " + first, desk.puts(), first);
+        }
+    }
+
+    private static void putsOutAtEveryStep(Check check) {
+        ReplayDesk desk = putter();
         for (int round = 1; round <= 5; round++) {
             desk.set(Check.A, round);
             desk.set(Check.PC, 0);

@@ -20,8 +20,9 @@ public final class RandomRunsTest {
         int prepared = seed % 4 == 0 ? 0 : 60 + random.nextInt(140);
         for (int call = 0; call < CALLS; call++) {
             int kind = call < prepared ? 0 : random.nextInt(40);
-            int got = call(desk, null, kind, new Random(seed * 1000L + call));
-            int want = call(null, plain, kind, new Random(seed * 1000L + call));
+            int last = plain.last();
+            int got = call(desk, null, kind, last, new Random(seed * 1000L + call));
+            int want = call(null, plain, kind, last, new Random(seed * 1000L + call));
             check.due("run " + seed + ", call " + call + " of kind " + kind, got, want);
         }
     }
@@ -58,7 +59,7 @@ public final class RandomRunsTest {
         return random.nextInt(12) == 0 ? random.nextInt() : random.nextInt(most + 4) - 2;
     }
 
-    private static int call(ReplayDesk desk, PlainDesk plain, int kind, Random random) {
+    private static int call(ReplayDesk desk, PlainDesk plain, int kind, int last, Random random) {
         boolean d = desk != null;
         int a = address(random);
         int v = value(random);
@@ -66,7 +67,6 @@ public final class RandomRunsTest {
         int steps = random.nextInt(3) == 0 ? upTo(random, 302) : upTo(random, 12);
         int k = upTo(random, 8);
         int code = code(random);
-        int last = d ? desk.last() : plain.last();
         int t = upTo(random, last);
         switch (kind) {
             case 0: return number(d ? desk.poke(a, code) : plain.poke(a, code));
