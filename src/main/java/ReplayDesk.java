@@ -389,8 +389,12 @@ public final class ReplayDesk {
                 load(op, t);
             } else if (op <= 5) {
                 writePlace(place, row[op - 3]);
+            } else if (op == 6) {
+                addToA(t);
+            } else if (op == 7) {
+                addToA(BYTE_BITS - t);
             } else if (op <= 10) {
-                combineWithA(op, t);
+                load(A, bitsWithA(op, t));
             } else if (op <= 13) {
                 compare(row[op - 11], t);
             } else if (op == 14) {
@@ -400,23 +404,14 @@ public final class ReplayDesk {
             }
         }
 
-        private void combineWithA(int op, int t) {
+        private int bitsWithA(int op, int t) {
             switch (op) {
-                case 6:
-                    addToA(t);
-                    break;
-                case 7:
-                    addToA(BYTE_BITS - t);
-                    break;
                 case 8:
-                    load(A, row[A] & t);
-                    break;
+                    return row[A] & t;
                 case 9:
-                    load(A, row[A] | t);
-                    break;
+                    return row[A] | t;
                 default:
-                    load(A, row[A] ^ t);
-                    break;
+                    return row[A] ^ t;
             }
         }
 
@@ -591,8 +586,8 @@ public final class ReplayDesk {
         }
 
         private void noteResult(int result) {
-            putFlag(FLAG_N, (result & 128) != 0);
-            putFlag(FLAG_Z, result == 0);
+            int others = row[P] & ~(FLAG_N | FLAG_Z);
+            row[P] = others | (result & FLAG_N) | (result == 0 ? FLAG_Z : 0);
         }
 
         private void putFlag(int flag, boolean on) {

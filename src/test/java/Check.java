@@ -32,6 +32,14 @@ final class Check {
         return desk;
     }
 
+    /** A new object with these bytes from an address on, and PC there; behind address 511 comes 0. */
+    static ReplayDesk deskAt(int pc, int... bytes) {
+        ReplayDesk desk = new ReplayDesk();
+        write(desk, pc, bytes);
+        desk.set(PC, pc);
+        return desk;
+    }
+
     static void write(ReplayDesk desk, int from, int... bytes) {
         for (int k = 0; k < bytes.length; k++) {
             desk.poke((from + k) & 511, bytes[k]);

@@ -25,6 +25,7 @@ public final class InstructionsTest {
         test.registersAndFlags();
         test.branches();
         test.nothings();
+        test.flagsThatAreNotToldStay();
         test.check.finish();
     }
 
@@ -420,6 +421,39 @@ public final class InstructionsTest {
                     small(25, m, start, p, start, p);
                 }
             }
+        }
+    }
+
+    private static int toldFlags(int op, int m) {
+        int[] by23 = {0, 0, N | Z, 0, ALL, 0, N | Z | C, 0};
+        int[] by25 = {N | Z, N | Z, C, C, V, 0, 0, 0};
+        if (op <= 10) {
+            return op >= 3 && op <= 5 ? 0 : op == 6 || op == 7 ? ALL : N | Z;
+        }
+        if (op <= 20) {
+            return op == 14 ? N | V | Z : op == 15 || op == 16 ? N | Z : N | Z | C;
+        }
+        return op == 23 ? by23[m] : op == 24 && m != 5 ? N | Z : op == 25 ? by25[m] : 0;
+    }
+
+    /** "Flags that are not told stay": each code with each P. */
+    private void flagsThatAreNotToldStay() {
+        for (int code = 0; code < 256; code++) {
+            int told = toldFlags(code >> 3, code & 7);
+            for (int k = 0; k < 16; k++) {
+                int p = k % 4 + k / 4 * 64;
+                ReplayDesk desk = desk(bytes(code, 100, 1), 5, 6, 7, 8, p);
+                desk.run(1);
+                String what = "flags not told by code " + code + " with P " + p;
+                check.due(what, desk.register(Check.P) & ~told, p & ~told);
+            }
+        }
+        for (int k = 0; k < 16; k++) {
+            int p = k % 4 + k / 4 * 64;
+            int[] start = {1, 2, 3, 4};
+            small(25, 2, start, p, start, p & ~C);
+            small(25, 3, start, p, start, p | C);
+            small(25, 4, start, p, start, p & ~V);
         }
     }
 }

@@ -9,9 +9,36 @@ public final class Promise02PokeTest {
         check.due("poke(255, -1)", desk.poke(255, -1), true);
         check.due("cell(255)", desk.cell(255), 255);
         check.due("cell(256)", desk.cell(256), 0);
+        reachesEveryCell(check);
+        keepsTheLowestEightBits(check);
         refusesOthers(check);
         beginsTheHistoryAnew(check);
         check.finish();
+    }
+
+    private static void reachesEveryCell(Check check) {
+        for (int from = 0; from < 512; from += 128) {
+            ReplayDesk desk = new ReplayDesk();
+            for (int a = from; a < from + 128; a++) {
+                check.due("poke(" + a + ")", desk.poke(a, a + 1), true);
+            }
+            for (int a = from; a < from + 128; a++) {
+                check.due("cell(" + a + ")", desk.cell(a), (a + 1) % 256);
+                check.due("a cell that was not poked", desk.cell(a ^ 128), 0);
+            }
+        }
+    }
+
+    private static void keepsTheLowestEightBits(Check check) {
+        int[] values = {-257, -256, -255, -1, 0, 255, 256, 257, 511, 512, Integer.MIN_VALUE, Integer.MAX_VALUE};
+        int[] due = {255, 0, 1, 255, 0, 255, 0, 1, 255, 0, 0, 255};
+        ReplayDesk desk = new ReplayDesk();
+        for (int k = 0; k < values.length; k++) {
+            desk.poke(5, 77);
+            check.due("poke(5, " + values[k] + ")", desk.poke(5, values[k]), true);
+            check.due("cell(5) after it", desk.cell(5), due[k]);
+            check.due("cell(6) after it", desk.cell(6), 0);
+        }
     }
 
     private static void refusesOthers(Check check) {

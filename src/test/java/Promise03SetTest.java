@@ -19,6 +19,7 @@ public final class Promise03SetTest {
         setAndSee(check, desk, Check.HALTED, 256, 1);
         setAndSee(check, desk, Check.HALTED, Integer.MIN_VALUE, 1);
         check.dueRegisters("after all", desk, 254, 253, 252, 251, 66, 511, 1);
+        keepsTheBitsOfTheRegister(check);
         refusesOthers(check);
         haltsAndWakes(check);
         beginsTheHistoryAnew(check);
@@ -29,6 +30,27 @@ public final class Promise03SetTest {
         String call = "set(" + k + ", " + v + ")";
         check.due(call, desk.set(k, v), true);
         check.due(call + ", register", desk.register(k), want);
+    }
+
+    private static void keepsTheBitsOfTheRegister(Check check) {
+        int[] edges = {-513, -512, -257, -256, -1, 0, 1, 255, 256, 511, 512, 513, Integer.MIN_VALUE, Integer.MAX_VALUE};
+        int[] bits = {255, 255, 255, 255, 128 + 64 + 2 + 1, 511};
+        for (int k = 0; k < bits.length; k++) {
+            ReplayDesk desk = new ReplayDesk();
+            for (int v : edges) {
+                setAndSee(check, desk, k, v, v & bits[k]);
+            }
+            for (int bit = 0; bit < 32; bit++) {
+                setAndSee(check, desk, k, 1 << bit, 1 << bit & bits[k]);
+            }
+            int[] due = {0, 0, 0, 255, 0, 0, 0};
+            due[k] = 0;
+            check.dueRegisters("the others after set(" + k + ")", desk, due);
+        }
+        ReplayDesk desk = new ReplayDesk();
+        for (int v : edges) {
+            setAndSee(check, desk, Check.HALTED, v, v == 0 ? 0 : 1);
+        }
     }
 
     private static void refusesOthers(Check check) {

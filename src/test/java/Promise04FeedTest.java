@@ -11,15 +11,15 @@ public final class Promise04FeedTest {
 
     private static void keepsTheOrder(Check check) {
         ReplayDesk desk = new ReplayDesk();
-        int[] fed = {3, 255, 256 + 9, -3};
-        int[] due = {3, 255, 9, 253};
-        for (int k = 0; k < 4; k++) {
+        int[] fed = {3, 255, 256 + 9, -3, 256, 0, -256, -1, Integer.MIN_VALUE, Integer.MAX_VALUE};
+        int[] due = {3, 255, 9, 253, 0, 0, 0, 255, 0, 255};
+        for (int k = 0; k < fed.length; k++) {
             check.due("feed(" + fed[k] + ")", desk.feed(fed[k]), true);
             check.due("waiting", desk.waiting(), k + 1);
         }
-        Check.write(desk, 0, Check.INPUT, Check.INPUT, Check.INPUT, Check.INPUT);
-        for (int k = 0; k < 4; k++) {
-            desk.run(1);
+        Check.write(desk, 0, Check.INPUT, Check.code(21, 1), 0);
+        for (int k = 0; k < fed.length; k++) {
+            desk.run(2);
             check.due("input " + k, desk.register(Check.A), due[k]);
         }
     }
@@ -29,7 +29,9 @@ public final class Promise04FeedTest {
         for (int k = 0; k < 40; k++) {
             check.due("feed " + k, desk.feed(k), true);
         }
+        check.due("waiting", desk.waiting(), 40);
         check.due("feed of the 41st", desk.feed(99), false);
+        check.due("feed of the 41st again", desk.feed(99), false);
         check.due("waiting", desk.waiting(), 40);
         desk.run(1);
         check.due("feed where one was taken", desk.feed(40), true);

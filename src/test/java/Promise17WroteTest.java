@@ -38,11 +38,14 @@ public final class Promise17WroteTest {
 
     private static void writesAtTheLastStep(Check check) {
         ReplayDesk desk = Check.deskWith(Check.code(3, 1), 100, Check.code(21, 1), 0);
-        desk.poke(299, Check.code(3, 1));
         desk.run(299);
-        desk.run(1);
         check.due("wrote(298)", desk.wrote(298), 100);
-        check.due("wrote(299)", desk.wrote(299), -1);
+        check.due("wrote(299) at 299", desk.wrote(299), -1);
+        desk.run(1);
+        check.due("wrote(299), a jump", desk.wrote(299), -1);
+        desk.set(Check.PC, 2);
+        desk.run(300);
+        check.due("wrote(299), a store", desk.wrote(299), 100);
         check.due("wrote(300)", desk.wrote(300), -1);
     }
 
