@@ -49,9 +49,16 @@ public final class FaceTest {
             }
         }
         check.due("the methods " + seen, seen.equals(DUE), true);
+        privateNames(check, type, names);
+        for (Class<?> inside : type.getDeclaredClasses()) {
+            privateNames(check, inside, names);
+        }
+    }
+
+    private static void privateNames(Check check, Class<?> type, Set<String> taken) {
         for (Method method : type.getDeclaredMethods()) {
             if (Modifier.isPrivate(method.getModifiers())) {
-                check.due("a public one's name: " + method, names.contains(method.getName()), false);
+                check.due("a public one's name: " + method, taken.contains(method.getName()), false);
             }
         }
     }
